@@ -3,10 +3,11 @@ import java.util.List;
 
 /** Runs of calls by a fixed row of numbers, each answer held against the Model's. */
 public final class ModelRuns {
-    private static final int RUNS = 120;
+    private static final int RUNS = 80;
     private static final int CALLS = 300;
     private static final int TEXTS = 20000;
     private static final int RINGS = 150;
+    private static final int MAZES = 2000;
 
     private static long seed = 1;
     private static FrostRing ring;
@@ -58,6 +59,13 @@ public final class ModelRuns {
             model = new Model();
             label = "ring " + i + ": ";
             askForMore();
+        }
+        for (int i = 0; i < MAZES; i++) {
+            seed = 3000000 + i;
+            ring = new FrostRing();
+            model = new Model();
+            label = "maze " + i + ": ";
+            walkMaze();
         }
         Check.close("ModelRuns");
     }
@@ -267,6 +275,10 @@ public final class ModelRuns {
                 due("as many as are listed", model.told.size(), Model.gapCount(model.now));
             }
         }
+        callGapsTold();
+    }
+
+    private static void callGapsTold() {
         for (int i = 0; i < model.told.size(); i++) {
             due("gap(" + i + ")", ring.gap(i), model.told.get(i));
         }
@@ -347,6 +359,38 @@ public final class ModelRuns {
         for (int n = 1; n <= 30; n += 1 + below(9)) {
             due("more(0, " + n + ")", ring.more(0, n), model.more(0, n));
             due("chosen()", ring.chosen(), model.chosen);
+        }
+    }
+
+    /** Blocks of ground that leads and freezes at once in ground that does neither: walls with holes, of any shape. */
+    private static void walkMaze() {
+        int x = from(3, 6);
+        int y = from(3, 6);
+        StringBuilder text = new StringBuilder("ground0lead0ice0latent999mark0;ground1lead15ice15latent1mark0;far1;");
+        text.append("shaft" + x + " " + y + "to" + from(x, Math.min(8, x + 3)) + " " + from(y, Math.min(8, y + 3)) + ";");
+        boolean[] taken = new boolean[144];
+        StringBuilder pipes = new StringBuilder();
+        for (int i = from(8, 14); i > 0; i--) {
+            int bx = below(12);
+            int by = below(12);
+            boolean wide = oneIn(2);
+            int bx2 = Math.min(11, bx + (wide ? below(7) : 0));
+            int by2 = Math.min(11, by + (wide ? 0 : below(7)));
+            text.append("lay" + bx + " " + by + "to" + bx2 + " " + by2 + "ground1;");
+            int px = from(bx, bx2);
+            int py = from(by, by2);
+            if (!taken[12 * py + px] && i <= 12) {
+                taken[12 * py + px] = true;
+                pipes.append("pipe" + px + " " + py + "at-400lead60;");
+            }
+        }
+        tellText(text.append(pipes).toString());
+        for (int i = 0; i < 3; i++) {
+            due("tick(2)", ring.tick(2), model.tick(2));
+            compareWalls();
+            model.told = Model.gapList(model.now);
+            due("gaps()", ring.gaps(), Model.gapCount(model.now));
+            callGapsTold();
         }
     }
 

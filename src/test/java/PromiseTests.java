@@ -99,6 +99,15 @@ public final class PromiseTests {
         due("P3 end(0)", r.end(0), 0);
         due("P3 end(0) again", r.end(0), 0);
         due("P3 end(1)", r.end(1), NONE);
+        for (int i = 0; i < 35; i++) {
+            r.feed(0x31313131, 0x31313131, 0x31313131, 0x31313131, 0x31313131);
+        }
+        due("P4 a TOKEN of 700 bytes", r.text(), -4);
+        due("P5 its place", r.fault(1), 0);
+        r.feed(0x66617220, 0x31313131, 0x31313131, 0x31313131, 0x31313131);
+        due("P3 end(5)", r.end(5), 5);
+        due("P4 what was behind the end is no more", r.text(), -4);
+        due("P5 the end's place", r.fault(1), 5);
         // "far 7;" and fourteen bytes more, the highest byte of each number first
         due("P2 feed", r.feed(0x66617220, 0x373b2020, 0x636f6c64, 0x20393b20, 0x20202020), 20);
         due("P4 text()", r.text(), 2);
@@ -186,6 +195,7 @@ public final class PromiseTests {
         fault("far 1\0;", 1, 5);
         fault("far 1;\r", 1, 6);
         fault("far 1;\u00e9", 1, 6);
+        fault("farz 1;", 1, 0);
         fault("far -1;", 1, 4);
         fault("far", 1, 3);
         fault("far  ", 1, 5);
@@ -234,6 +244,9 @@ public final class PromiseTests {
         fault("shaft 0 1", 2, 6);
         fault("shaft 1 0", 2, 8);
         fault("shaft 11 1", 2, 6);
+        fault("shaft 1 11", 2, 8);
+        fault("shaft 5 5 to 11 5", 2, 13);
+        fault("shaft 5 5 to 5 4", 2, 15);
         fault("shaft 5 5 to 4 5", 2, 13);
         fault("shaft 5 5 to 5 11", 2, 15);
         fault("pipe 12 0", 2, 5);
@@ -614,6 +627,13 @@ public final class PromiseTests {
         due("P18 without a SHAFT", r.lacks(0), 1);
         due("P18 thick and gaps are 0", r.lacks(1), 0);
         due("P18 and not more", r.lacks(2), 3);
+        for (int x = 0; x < 12; x++) {
+            r = ring("far 1;pipe " + x + " 3 at -400 lead 60;dig if lift > 9 and lift < 10;");
+            r.tick(1);
+            due("P18 the greatest of all columns", r.lacks(0), 2);
+        }
+        r = ring("dig if lift > 0;");
+        due("P18 no LIFT", r.lacks(0), 1);
         r = ring(RING + "dig if gaps < 4 and gaps > 4 and gaps > 3;");
         due("P18 four GAPS", r.lacks(0), 3);
         r = ring(RING + "dig if tick < 1;");
@@ -1055,6 +1075,8 @@ public final class PromiseTests {
         fill(r, 0, 1, 0, 77, 2, 3);
         fill(r, 1, 1, 10, 11, 12);
         due("P36 no such SLOT", r.paste(-1, 0, 1, 0, 1), -2);
+        due("P36 no such SLOT", r.paste(4, 0, 1, 0, 1), -2);
+        due("P36 no such SLOT", r.paste(0, 0, -1, 0, 1), -2);
         due("P36 no such SLOT", r.paste(0, 0, 4, 0, 1), -2);
         due("P36 one has nothing", r.paste(0, 0, 2, 0, 1), -6);
         due("P36 one has nothing", r.paste(2, 0, 0, 0, 1), -6);
