@@ -183,9 +183,12 @@ final class RowSentences {
     // ---- promises 32 and 33
 
     private static final String TOLD = "far 60;shaft 4 4 to 6 5;pipe 4 3 at -300 lead 60;pipe 6 3 at -200 lead 50;cold 250;stream 3 speed 12;"
-        + "house 3 limit 1;ground 2 lead 3 ice 9 latent 40 mark -5;lay 3 2 to 6 3 ground 2;dig if tick < 7 and gaps > 1;";
+        + "house 3 limit 1;ground 2 lead 3 ice 9 latent 40 mark -5;lay 3 2 to 6 3 ground 2;dig if tick < 7 and gaps > 1;dig if shut;"
+        + "dig if lift < 1 and tick > 1 and thick < 1;dig if tick > 0 and tick < 3 and gaps > 0;";
     private static final String OTHER = "far 9;shaft 1 1 to 2 2;pipe 1 0 at -400 lead 60;stream 1 speed 30;ground 0 lead 1 ice 2 latent 3 mark -4;"
-        + "ground 1 lead 0 ice 0 latent 1 mark 0;lay 5 5 to 9 9 ground 1;house 0 limit 0;house 5 limit 5;dig if shut;dig if tick > 1;cold 7000;";
+        + "ground 1 lead 0 ice 0 latent 1 mark 0;lay 5 5 to 9 9 ground 1;house 0 limit 0;house 5 limit 5;cold 7000;"
+        + "dig if shut;dig if tick > 1 and tick < 9 and shut;dig if tick < 9 and gaps > 3 and thick < 1;"
+        + "dig if thick < 1 and gaps > 3 and lift < 1;";
 
     private static FrostRing wornRing() {
         FrostRing r = Check.ring(TOLD);
@@ -220,7 +223,7 @@ final class RowSentences {
         }
         FrostRing r = new FrostRing();
         due("of a new object", r.keep(0), 0);
-        due("a TEXT", Check.tell(r, TOLD), 10);
+        due("a TEXT", Check.tell(r, TOLD), 13);
         due("a FAULT", Check.tell(r, "far"), -4);
         due("back(0)", r.back(0), 0);
         due("no LINES", r.count(0), 0);
@@ -245,8 +248,9 @@ final class RowSentences {
         FrostRing r = wornRing();
         List<Integer> worn = Sentences.look(r);
         due("keep(0)", r.keep(0), 0);
-        due("another TEXT", Check.tell(r, OTHER), 12);
+        due("another TEXT", Check.tell(r, OTHER), 14);
         r.gauge(9, 0, 0, 0);
+        r.gauge(4, 3, 3, -30);
         r.tick(3);
         List<Integer> other = Sentences.look(r);
         due("keep(1)", r.keep(1), 0);

@@ -167,18 +167,9 @@ final class TapeSentences {
     private static final String BUSY = "far 40;shaft 5 5 to 6 5;pipe 5 4 at -400 lead 60;house 4 limit 0;cold 500;"
         + "dig if tick < 9;stream 2 speed 9;lay 1 1 to 2 2 ground 3;";
 
-    /** A CELL is DUG, the SHAFT FLOODED, a HOUSE CRACKED, a GAUGE belied, the PIPE stands still. */
     private static FrostRing busyRing() {
         FrostRing r = Check.ring(BUSY);
-        due("dig(5, 5)", r.dig(5, 5), 1);
-        due("tick(3)", r.tick(3), 3);
-        due("FROZEN", r.cell(5, 4, 3), 1);
-        due("FLOODED", r.count(8), 1);
-        due("CRACKED", r.cracks(), 1);
-        due("gauge(9, 0, 0, 500)", r.gauge(9, 0, 0, 500), 0);
-        due("belied", r.lies(99), 512);
-        Sentences.due("run(0, false)", r.run(0, false), true);
-        due("cold(7)", r.cold(7), 500);
+        wear(r);
         return r;
     }
 
@@ -203,9 +194,55 @@ final class TapeSentences {
         due("is empty, too", r.count(6), 0);
     }
 
+    /** Makes it busy: a CELL is DUG, the SHAFT FLOODED, a HOUSE CRACKED, a GAUGE belied, the PIPE stands still. */
+    private static void wear(FrostRing r) {
+        due("dig(5, 5)", r.dig(5, 5), 1);
+        due("tick(3)", r.tick(3), 3);
+        due("FROZEN", r.cell(5, 4, 3), 1);
+        due("FLOODED", r.count(8), 1);
+        due("CRACKED", r.cracks(), 1);
+        due("gauge(9, 0, 0, 500)", r.gauge(9, 0, 0, 500), 0);
+        due("belied", r.lies(99), 512);
+        Sentences.due("run(0, false)", r.run(0, false), true);
+        due("cold(7)", r.cold(7), 500);
+    }
+
+    /** All LINES that there are, with all that can be told, and a FAULT at the end. */
+    private static final String SPOILT = "ground 0 lead 1 ice 2 latent 3 mark -4;ground 3 lead 5 ice 6 latent 7 mark -8;lay 0 0 to 11 11 ground 3;"
+        + "stream 0 speed 9;stream 11 speed 30;far 7;shaft 1 1 to 10 10;pipe 0 0 at -4 lead 5;pipe 11 11 at -400 lead 60;cold 3;"
+        + "house 0 limit 0;house 4 limit 9;dig if tick < 0 and lift < 0 and gaps < 0;dig if thick < 0 and shut and shut;"
+        + "dig if shut and shut and shut;dig if shut and shut and shut and ";
+
+    private static void nothingIsLeft() {
+        List<Integer> asNew = Sentences.look(Check.ring(BUSY));
+        List<Integer> empty = Sentences.look(new FrostRing());
+        FrostRing r = new FrostRing();
+        for (int i = 0; i < 4; i++) {
+            due("text()", Check.tell(r, BUSY), 8);
+            Sentences.same("anew, time " + i, Sentences.look(r), asNew);
+            wear(r);
+        }
+        for (int i = 0; i < 4; i++) {
+            due("of nothing", r.text(), 0);
+            Sentences.same("as a new object, time " + i, Sentences.look(r), empty);
+        }
+        r = new FrostRing();
+        for (int i = 0; i < 3; i++) {
+            due("a FAULT", Check.tell(r, SPOILT), -4);
+            due("at its end", r.fault(1), SPOILT.length());
+            due("of nothing", r.text(), 0);
+            Sentences.same("behind a FAULT, time " + i, Sentences.look(r), empty);
+            due("a FAULT", Check.tell(r, SPOILT), -4);
+            due("text()", Check.tell(r, BUSY), 8);
+            Sentences.same("behind a FAULT, time " + i, Sentences.look(r), asNew);
+            wear(r);
+        }
+    }
+
     private static void allBeginsAnew() {
         List<Integer> asNew = Sentences.look(Check.ring(BUSY));
         Sentences.holds(4, "all begins anew by it (CELLS are as warm as FAR, thawed, not DUG;");
+        nothingIsLeft();
         FrostRing r = busyRing();
         due("text()", Check.tell(r, BUSY), 8);
         for (int c = 0; c < 144; c++) {

@@ -60,7 +60,7 @@ final class TextSentences {
 
     // ---- LINES
 
-    /** A LINE is good as it is, and with none of its TOKENS another one or left out behind all ahead of it. */
+    /** A LINE is good as it is, but not if one of its TOKENS is another one, is misspelt, or is the end. */
     private static void eachToken(String line) {
         good(line, 1);
         good(line.replace(" ;", ";").replace(" ", "\n \n"), 1);
@@ -71,6 +71,10 @@ final class TextSentences {
             String behind = line.substring(place + token.length());
             fault(ahead + "zz" + behind, 1, place);
             fault(ahead + "!" + behind, 1, place);
+            for (int i = 0; i < token.length() && token.charAt(i) >= 'a'; i++) {
+                fault(ahead + token.substring(0, i) + 'q' + token.substring(i + 1) + behind, 1, place);
+                fault(ahead + token.substring(0, i) + token.substring(i, i + 1) + token.substring(i) + behind, 1, place);
+            }
             if (place > 0) {
                 fault(ahead, 1, place);
                 fault(ahead.trim(), 1, place - 1);

@@ -150,6 +150,7 @@ final class TickSentences {
         due("the coldest", r.most(0), 65);
         due("a RULE lets it", r.dig(5, 5), 1);
         due("HEAT of all", r.heat(0), 14300);
+        due("WARM -100 less ICE 100 are gone", r.heat(4), -200);
         due("FROZEN CELLS", r.count(3), 0);
         due("frost(5)", r.frost(5), 0);
         due("lift(5)", r.lift(5), 0);
@@ -373,6 +374,15 @@ final class TickSentences {
         r.tick(1);
         due("3 * 30 / 100 is nothing", r.cell(0, 5, 1), 97);
         due("nor is -3 * 30 / 100", r.cell(1, 5, 1), 100);
+        for (int taken = 99; taken <= 101; taken++) {
+            r = Check.ring(ALONE + "far 300;stream 5 speed 1;pipe 0 5 at -" + (4 * taken - 300) + " lead 25;");
+            r.tick(1);
+            due("so much is taken", r.cell(0, 5, 1), 300 - taken);
+            r.run(0, false);
+            r.tick(1);
+            due(taken + " * 1 / 100", r.cell(0, 5, 1), 300 - taken + taken / 100);
+            due("-" + taken + " * 1 / 100", r.cell(1, 5, 1), 300 - taken / 100);
+        }
     }
 
     private static void whatAPipeTakes() {
@@ -410,6 +420,12 @@ final class TickSentences {
             due("50 of COLD " + k[0], r.pipe(1, 4), k[2]);
             due("in all", r.heat(1), k[1] + k[2]);
         }
+        FrostRing least = Check.ring(ALONE + "far 2;pipe 2 2 at 0 lead 60;cold 0;");
+        least.tick(1);
+        due("1 of COLD 0", least.pipe(0, 4), 0);
+        least.cold(1);
+        least.tick(1);
+        due("1 of COLD 1", least.pipe(0, 4), 1);
         // twelve of 420 each
         StringBuilder twelve = new StringBuilder(ALONE + "far 300;");
         for (int i = 0; i < 12; i++) {

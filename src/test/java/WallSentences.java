@@ -20,7 +20,9 @@ final class WallSentences {
         shutWithoutWay();
         fewestGaps();
         nearestGaps();
+        GapSentences.all();
         fewestFrozen();
+        askedInAnyOrder();
         whetherShut();
         noShaft();
         shortestWay();
@@ -169,6 +171,64 @@ final class WallSentences {
         due("thick ahead, thin aside", frozen(ONE, 53, 64, 66, 77, 41, 29, 63, 67, 89).thick(), 1);
         due("no straight row", frozen("shaft 1 1 to 1 1;", 1, 12, 14, 25, 2, 24).thick(), 1);
         due("at the RIM", frozen("shaft 1 1 to 1 1;", 1, 12, 14, 25).thick(), 1);
+        thickWalls();
+    }
+
+    /** The four calls, one after the other and again, on one object: each has its answer, whatever was asked ahead of it. */
+    private static void ask(FrostRing r, int way, int gaps, int thick) {
+        int[] orders = {0, 1, 2, 3, 2, 0, 3, 3, 1, 1, 0, 2, 2, 1, 3, 0, 0};
+        for (int which : orders) {
+            switch (which) {
+                case 0 -> due("shut()", r.shut(), way == NONE ? 1 : 0);
+                case 1 -> due("way()", r.way(), way);
+                case 2 -> due("gaps()", r.gaps(), gaps);
+                default -> due("thick()", r.thick(), thick);
+            }
+        }
+    }
+
+    private static void askedInAnyOrder() {
+        Sentences.holds(12, "SHUT: there is none.");
+        FrostRing r = Check.ring(QUICK + ONE + pipes(both(SIDES, OUTER)));
+        ask(r, 5, 4, 0);
+        r.keep(0);
+        r.tick(1);
+        ask(r, NONE, 0, 2);
+        r.keep(1);
+        due("a new TEXT", Check.tell(r, QUICK + ONE + pipes(both(SIDES, without(OUTER, 89)))), 3 + 11);
+        ask(r, 5, 4, 0);
+        r.tick(1);
+        ask(r, NONE, 0, 1);
+        due("another", Check.tell(r, QUICK + ONE + pipes(without(OUTER, 76))), 3 + 7);
+        r.tick(1);
+        ask(r, 6, 1, 0);
+        due("the greatest SHAFT", Check.tell(r, "shaft 1 1 to 10 10;"), 1);
+        ask(r, 1, 40, 0);
+        due("back(1)", r.back(1), 0);
+        ask(r, NONE, 0, 2);
+        due("back(0)", r.back(0), 0);
+        ask(r, 5, 4, 0);
+        // a chamber of 63 alone, in a wall through which a WAY went in the TEXT ahead
+        due("a small chamber", Check.tell(r, QUICK + "shaft 2 5 to 2 5;" + pipes(50, 61, 74, 51, 75, 64)), 3 + 6);
+        r.tick(1);
+        ask(r, NONE, 0, 1);
+    }
+
+    /** All that leads freezes in so many TICKS; the frost is as thick as the ground that leads. */
+    private static void thickWalls() {
+        String ground = "ground 0 lead 0 ice 0 latent 999 mark 0;ground 1 lead 15 ice 15 latent 1 mark 0;far 1;";
+        FrostRing r = Check.ring(ground + ONE);
+        for (int wide = 1; wide <= 5; wide++) {
+            due("the greatest SHAFT", Check.tell(r, "shaft 1 1 to 10 10;"), 1);
+            ask(r, 1, 40, 0);
+            String lay = "lay " + (5 - wide) + " " + (5 - wide) + " to " + (5 + wide) + " " + (5 + wide) + " ground 1;";
+            due("a wall of " + wide, Check.tell(r, ground + lay + ONE + pipes(SIDES)), 9);
+            r.tick(30);
+            if (wide < 5) {
+                due("FROZEN CELLS", r.count(3), (2 * wide + 1) * (2 * wide + 1));
+            }
+            ask(r, NONE, 0, wide);
+        }
     }
 
     // ---- promises 12 to 16
