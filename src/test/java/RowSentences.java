@@ -271,6 +271,53 @@ final class RowSentences {
         due("back(1)", r.back(1), 0);
         due("back(0)", r.back(0), 0);
         Sentences.same("the later one", Sentences.look(r), Sentences.look(on));
+        fullImages();
+    }
+
+    /** The last of all that a TEXT can tell: the last CELL, GROUND, STREAM, PIPE, HOUSE, RULE and GAUGE. */
+    private static String lastOfAll(int g, int speed, int at, int limit, String rule) {
+        StringBuilder text = new StringBuilder("ground 3 lead " + g + " ice " + (g + 1) + " latent " + (20 + g) + " mark -" + g + ";");
+        text.append("lay 11 11 to 11 11 ground " + (speed > 9 ? 3 : 2) + ";lay 3 8 to 10 10 ground 3;lay 10 11 to 10 11 ground 3;stream 11 speed " + speed + ";far 60;shaft 5 5 to 5 5;");
+        for (int i = 0; i < 12; i++) {
+            text.append("pipe" + i + " 11at-" + (at + i) + "lead60;");
+        }
+        for (int i = 0; i < 6; i++) {
+            text.append("house" + (i + (limit > 0 ? 4 : 5)) + "limit" + (limit + i) + ";");
+        }
+        return text.append("dig if shut;".repeat(3)).append(rule).toString();
+    }
+
+    private static void fullImages() {
+        String[] texts = {lastOfAll(3, 7, 40, 0, "dig if tick < 99;"), lastOfAll(9, 30, 80, 3, "dig if tick > 1 and gaps > 9 and lift > 99;")};
+        FrostRing[] alone = new FrostRing[2];
+        FrostRing r = new FrostRing();
+        for (int k = 0; k < 2; k++) {
+            alone[k] = Check.ring(texts[k]);
+            Sentences.due("text() " + k, Check.tell(r, texts[k]) > 0, true);
+            for (FrostRing each : new FrostRing[] {alone[k], r}) {
+                due("the last GAUGE", each.gauge(9, 11, 11, 50 - 60 * k), 0);
+                due("tick(9)", each.tick(9), 9);
+            }
+            due("keep(" + k + ")", r.keep(k), 0);
+        }
+        due("a TEXT of nothing", r.text(), 0);
+        for (int k : new int[] {0, 1, 0, 1}) {
+            due("back(" + k + ")", r.back(k), 0);
+            Sentences.same("all of IMAGE " + k, Sentences.look(r), Sentences.look(alone[k]));
+            due("twelve PIPES", r.count(2), 12);
+            due("six HOUSES", r.count(7), 6);
+            due("four RULES", r.count(5), 4);
+        }
+        FrostRing other = Check.ring(texts[1]);
+        other.gauge(9, 11, 11, -10);
+        other.tick(9);
+        due("tick(9)", r.tick(9), 18);
+        due("tick(9)", other.tick(9), 18);
+        Sentences.same("nine TICKS on", Sentences.look(r), Sentences.look(other));
+        due("back(0)", r.back(0), 0);
+        due("tick(9)", r.tick(9), 18);
+        due("tick(9)", alone[0].tick(9), 18);
+        Sentences.same("nine TICKS on", Sentences.look(r), Sentences.look(alone[0]));
     }
 
     private static void noSuchImages() {

@@ -237,6 +237,11 @@ final class TapeSentences {
             Sentences.same("behind a FAULT, time " + i, Sentences.look(r), asNew);
             wear(r);
         }
+        due("a FAULT", Check.tell(r, SPOILT), -4);
+        due("four RULES of one COND", Check.tell(r, "dig if tick < 1;".repeat(4)), 4);
+        for (int i = 0; i < 4; i++) {
+            due("nothing of the COND that stood there", r.lacks(i), 0);
+        }
     }
 
     private static void allBeginsAnew() {

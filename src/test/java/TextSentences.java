@@ -215,6 +215,14 @@ final class TextSentences {
         good("ground0lead1ice2latent3mark-4;lay0 0to1 1ground0;dig if shut and tick<1and thick>2;", 3);
         fault("dig if tick<1andthick>2;", 1, 13);
         fault("lay00 to1 1ground0;", 1, 6);
+        // numbers that are the bytes of ; < > - and of blanks
+        fault("far 1 59", 1, 6);
+        fault("far 1 59 far 1;", 1, 6);
+        fault("dig if tick 60 5;", 1, 12);
+        fault("dig if tick 62 5;", 1, 12);
+        fault("pipe 0 0 at 45 5 lead 1;", 2, 12);
+        fault("far 32 7;", 1, 7);
+        fault("far 10 7;", 1, 7);
         fault("1".repeat(700), 1, 0);
         fault("a".repeat(700), 1, 0);
         fault(" ".repeat(699) + "a", 1, 699);
