@@ -1441,7 +1441,7 @@ public final class FrostRing {
                     step(c, 1);
                 }
             }
-            for (int i = 0; i < queued; i++) {
+            for (int i = 0; i < queued && i < NODES; i++) {
                 int c = queue[i];
                 if (isAtRim(c)) {
                     return steps[c];
@@ -1456,10 +1456,13 @@ public final class FrostRing {
             return NONE;
         }
 
+        /** A search comes to each CELL once, so that there is always room; so it is in reach and come. */
         private void step(int c, int count) {
-            steps[c] = count;
-            queue[queued] = c;
-            queued++;
+            if (queued < NODES) {
+                steps[c] = count;
+                queue[queued] = c;
+                queued++;
+            }
         }
 
         /** CELLS with as many FROZEN ones behind them are gone through together, the fewest first. */
@@ -1487,7 +1490,7 @@ public final class FrostRing {
         }
 
         private boolean reachesRim() {
-            for (int i = 0; i < queued; i++) {
+            for (int i = 0; i < queued && i < NODES; i++) {
                 int c = queue[i];
                 if (isAtRim(c)) {
                     return true;
@@ -1507,10 +1510,10 @@ public final class FrostRing {
                 return;
             }
             steps[c] = 1;
-            if (kind[c] == OPEN) {
+            if (kind[c] == OPEN && queued < NODES) {
                 queue[queued] = c;
                 queued++;
-            } else {
+            } else if (queuedLater < NODES) {
                 later[queuedLater] = c;
                 queuedLater++;
             }
@@ -1556,7 +1559,7 @@ public final class FrostRing {
                     come(c, FROM_SHAFT);
                 }
             }
-            for (int i = 0; i < queued; i++) {
+            for (int i = 0; i < queued && i < NODES; i++) {
                 int node = queue[i];
                 if (node < CELLS) {
                     goOnFromInside(node);
@@ -1570,7 +1573,7 @@ public final class FrostRing {
         }
 
         private void come(int node, int from) {
-            if (parent[node] == UNSEEN) {
+            if (parent[node] == UNSEEN && queued < NODES) {
                 parent[node] = from;
                 queue[queued] = node;
                 queued++;

@@ -14,6 +14,7 @@ import java.util.regex.Pattern;
 /** The class's face is the document's, and its source keeps to what a machine can see of LANGUAGE.md. */
 public final class LanguageTests {
     private static final String SOURCE = "src/main/java/FrostRing.java";
+    private static final Path DOCUMENT = Path.of("../shared/DOC.md");
 
     private static final String[] FACE = {
         "int feed(int,int,int,int,int)", "int end(int)", "int text()", "int fault(int)", "int tick(int)",
@@ -30,6 +31,9 @@ public final class LanguageTests {
 
     public static void main(String[] args) throws IOException {
         face();
+        if (Files.isReadable(DOCUMENT)) {
+            faceOfDocument(Files.readString(DOCUMENT));
+        }
         String code = withoutCommentsAndTexts(Files.readString(Path.of(SOURCE)));
         words(code);
         classes(code);
@@ -82,6 +86,17 @@ public final class LanguageTests {
         }
     }
 
+    /** The face that is looked for here is the one that the document tells. */
+    private static void faceOfDocument(String document) {
+        TreeSet<String> told = new TreeSet<>();
+        Matcher m = Pattern.compile("(?m)^    public (\\w+ \\w+)\\((.*)\\);$").matcher(document);
+        while (m.find()) {
+            told.add(m.group(1) + "(" + m.group(2).replaceAll(" \\w+(, )?", ",").replaceFirst(",$", "") + ")");
+        }
+        Check.due("the document's face " + told, told.equals(new TreeSet<>(List.of(FACE))), true);
+        Check.due("NONE", FrostRing.NONE, -1);
+    }
+
     private static void fields(Class<?> c) {
         int held = 0;
         for (Field f : c.getDeclaredFields()) {
@@ -119,6 +134,8 @@ public final class LanguageTests {
         none("rule 4", "\\bMath\\.(?!max|min|abs)", code);
         none("rule 6", "\\b(equals|hashCode|toString)\\b", code);
         none("rule 9", "while\\s*\\(\\s*true|for\\s*\\(\\s*;\\s*;", code);
+        // a queue grows while it is gone through: its bound must stand beside it
+        none("rule 9", "i < queued\\s*;", code);
         none("rule 1", "^package", code);
         Matcher m = Pattern.compile("import ([^;]*);").matcher(code);
         while (m.find()) {
